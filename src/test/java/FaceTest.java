@@ -1,0 +1,58 @@
+import java.lang.reflect.Constructor;
+import java.lang.reflect.Field;
+import java.lang.reflect.Method;
+import java.lang.reflect.Modifier;
+import java.util.ArrayList;
+import java.util.List;
+
+/** The public face is just that of the document, and no private method bears a name of it. */
+final class FaceTest extends Check {
+    private static final String[] FACE = {
+        "int addClient(int,int)", "int setTerm(int,int)", "int setRoom(int)", "int cut(int,boolean)",
+        "int read(int,int)", "boolean write(int,int,int)", "int flush(int)", "int tick(int)",
+        "int clock()", "int clients()", "int server(int,int)", "int lease(int,int)",
+        "int request(int,int,int)", "int onTheWay()", "int way(int,int)", "int has(int,int,int)",
+        "int used(int,int)", "int told(int,int)", "int aside(int,int,boolean)", "double luck(int)",
+        "int stale()", "int calmIn(int)", "int contentIn(int,int)", "int conflictsIn(int,int)",
+        "long digest()"};
+
+    public static void main(String[] args) {
+        List<String> due = List.of(FACE);
+        List<String> names = new ArrayList<>();
+        int found = 0;
+        for (Method method : IronbridgeCache.class.getDeclaredMethods()) {
+            if (Modifier.isPrivate(method.getModifiers())) {
+                continue;
+            }
+            found++;
+            names.add(method.getName());
+            same("public: " + method, Modifier.isPublic(method.getModifiers()), true);
+            same("of the face: " + method, due.contains(signatureOf(method)), true);
+        }
+        same("all of the face", found, FACE.length);
+        same("final", Modifier.isFinal(IronbridgeCache.class.getModifiers()), true);
+        Constructor<?>[] constructors = IronbridgeCache.class.getDeclaredConstructors();
+        same("one constructor", constructors.length, 1);
+        same("public constructor", Modifier.isPublic(constructors[0].getModifiers()), true);
+        for (Field field : IronbridgeCache.class.getDeclaredFields()) {
+            same("private: " + field, Modifier.isPrivate(field.getModifiers()), true);
+        }
+        for (Class<?> inner : IronbridgeCache.class.getDeclaredClasses()) {
+            for (Method method : inner.getDeclaredMethods()) {
+                same("no name of the face: " + method, names.contains(method.getName()), false);
+                same("at most seven parameters: " + method, method.getParameterCount() <= 7, true);
+            }
+        }
+        close("FaceTest");
+    }
+
+    private static String signatureOf(Method method) {
+        StringBuilder text = new StringBuilder();
+        text.append(method.getReturnType().getSimpleName()).append(' ').append(method.getName()).append('(');
+        Class<?>[] types = method.getParameterTypes();
+        for (int i = 0; i < types.length; i++) {
+            text.append(i == 0 ? "" : ",").append(types[i].getSimpleName());
+        }
+        return text.append(')').toString();
+    }
+}
