@@ -85,4 +85,37 @@ class Check {
         }
         net.tick(2);
     }
+
+    /** The digest as the document tells it, of what the other calls answer. */
+    static long digestOf(IronbridgeCache net) {
+        long d = 58077;
+        long[] start = {net.clock(), net.clients(), net.onTheWay(), net.stale()};
+        for (long v : start) {
+            d = d * 31 + v;
+        }
+        for (int file = 0; file < 12; file++) {
+            for (int what = 0; what < 4; what++) {
+                d = d * 31 + net.server(file, what);
+            }
+        }
+        for (int client = 0; client < net.clients(); client++) {
+            for (int what = 0; what < 7; what++) {
+                d = d * 31 + net.told(client, what);
+            }
+            for (int place = 0; place < net.told(client, 0); place++) {
+                d = d * 31 + net.used(client, place);
+            }
+            for (int file = 0; file < 12; file++) {
+                for (int what = 0; what < 6; what++) {
+                    d = d * 31 + net.has(client, file, what);
+                }
+            }
+        }
+        for (int place = 0; place < net.onTheWay(); place++) {
+            for (int what = 0; what < 4; what++) {
+                d = d * 31 + net.way(place, what);
+            }
+        }
+        return d;
+    }
 }

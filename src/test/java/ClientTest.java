@@ -65,11 +65,32 @@ final class ClientTest extends Check {
         same("17 dirty and sent, not asked for", net.has(0, 3, 5), 2);
         net.tick(2);
         same("17 gives change nothing of a dirty one", net.has(0, 3, 0), 5);
+        hasGivenWhileDirty();
+    }
+
+    private static void hasGivenWhileDirty() {
+        IronbridgeCache net = new IronbridgeCache();
+        net.addClient(2, 0);
+        net.read(0, 3);
+        net.tick(22);
+        net.read(0, 3);
+        net.tick(1);
+        net.cut(0, true);
+        net.write(0, 3, 5);
+        net.cut(0, false);
+        same("17 give, then store", net.tick(1), 2);
+        same("17 give is on its way", net.way(1, 1), 3);
+        net.tick(2);
+        hasRow("17 give of a dirty one", net, 0, 5, 0, 1, -1, 1, 2);
+        net.tick(1);
+        hasRow("17 stored", net, 0, 5, 1, 0, 45, 1, 0);
     }
 
     private static void used() {
         IronbridgeCache net = netOf(0);
         failsIndex("18 no client", net, () -> net.used(1, 0));
+        failsIndex("18 no client -1", net, () -> net.used(-1, 0));
+        failsIndex("18 no client 4", net, () -> net.used(4, 0));
         failsIndex("18 nothing", net, () -> net.used(0, 0));
         readAll(net, 4, 2, 7);
         usedRow("18 given", net, 7, 2, 4);
@@ -129,6 +150,8 @@ final class ClientTest extends Check {
     private static void aside() {
         IronbridgeCache net = netOf(0, 2);
         failsIndex("20 no client", net, () -> net.aside(2, 0, true));
+        failsIndex("20 no client -1", net, () -> net.aside(-1, 0, false));
+        failsIndex("20 no client 4", net, () -> net.aside(4, 0, false));
         failsIndex("20 nothing", net, () -> net.aside(1, 0, true));
         readAll(net, 0, 9);
         conflict(net, 9, 70);

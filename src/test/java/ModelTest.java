@@ -167,6 +167,7 @@ final class ModelTest extends Check {
             due("conflictsIn", net.conflictsIn(client, ticks), model.conflictsIn(client, ticks));
         }
         due("digest", net.digest(), before);
+        due("digest of all", before, digestOf(net));
     }
 
     private void due(String what, long got, long due) {

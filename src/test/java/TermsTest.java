@@ -49,6 +49,22 @@ final class TermsTest extends Check {
         same("1 lease as with fetch", net.lease(3, 0), 29);
         net.tick(1);
         same("1 told so", net.has(0, 3, 3), 29);
+        same("1 the other one has it no more", net.has(1, 3, 0), -1);
+        ackIsLookedAtAtOnce();
+    }
+
+    /** By the ACK of file 9 its STORE is done before FETCH of file 2, which comes behind it. */
+    private static void ackIsLookedAtAtOnce() {
+        IronbridgeCache net = netOf(0, 0);
+        readAll(net, 9);
+        net.write(0, 9, 1);
+        net.flush(0);
+        net.tick(2);
+        net.read(0, 2);
+        same("1 ack", net.way(0, 1), 2);
+        net.tick(1);
+        same("1 stored first", net.way(0, 1), 4);
+        same("1 then given", net.way(1, 1), 3);
     }
 
     private static void storeWaitsForLease() {

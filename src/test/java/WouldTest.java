@@ -9,6 +9,7 @@ final class WouldTest extends Check {
         conflictsInOfCutLine();
         digest();
         nothingIsChanged();
+        asItComes();
         close("WouldTest");
     }
 
@@ -128,38 +129,24 @@ final class WouldTest extends Check {
             net.tick(1 + i % 3);
             same("26 step " + i, net.digest(), digestOf(net));
         }
+        digestOfStale();
     }
 
-    private static long digestOf(IronbridgeCache net) {
-        long d = 58077;
-        long[] start = {net.clock(), net.clients(), net.onTheWay(), net.stale()};
-        for (long v : start) {
-            d = d * 31 + v;
-        }
-        for (int file = 0; file < 12; file++) {
-            for (int what = 0; what < 4; what++) {
-                d = d * 31 + net.server(file, what);
-            }
-        }
-        for (int client = 0; client < net.clients(); client++) {
-            for (int what = 0; what < 7; what++) {
-                d = d * 31 + net.told(client, what);
-            }
-            for (int place = 0; place < net.told(client, 0); place++) {
-                d = d * 31 + net.used(client, place);
-            }
-            for (int file = 0; file < 12; file++) {
-                for (int what = 0; what < 6; what++) {
-                    d = d * 31 + net.has(client, file, what);
-                }
-            }
-        }
-        for (int place = 0; place < net.onTheWay(); place++) {
-            for (int what = 0; what < 4; what++) {
-                d = d * 31 + net.way(place, what);
-            }
-        }
-        return d;
+    private static void digestOfStale() {
+        IronbridgeCache net = netOf(0, 0);
+        net.addClient(8, 0);
+        readAll(net, 0);
+        net.cut(1, true);
+        net.write(0, 0, 1);
+        net.flush(0);
+        net.tick(20);
+        net.read(2, 5);
+        same("26 with a stale one", net.stale(), 1);
+        same("26 and with what comes 8 later", net.way(net.onTheWay() - 1, 3), 30);
+        same("26 counts both", net.digest(), digestOf(net));
+        net.tick(8);
+        net.read(2, 6);
+        same("26 as the one comes", net.digest(), digestOf(net));
     }
 
     private static void nothingIsChanged() {
@@ -177,5 +164,55 @@ final class WouldTest extends Check {
         same("22 to 26 change nothing", net.digest(), before);
         failsIndex("25 keeps nothing aside", net, () -> net.aside(0, 0, true));
         same("23 of a cut line", net.calmIn(20), 20);
+    }
+
+    /** What would be is what comes: asked of one net, seen at another one of the same calls. */
+    private static void asItComes() {
+        for (int ticks = 1; ticks <= 60; ticks++) {
+            IronbridgeCache asked = busy();
+            IronbridgeCache seen = busy();
+            seen.tick(ticks);
+            for (int file = 0; file < 12; file++) {
+                same("24 file " + file + " in " + ticks, asked.contentIn(file, ticks), seen.server(file, 0));
+            }
+            for (int client = 0; client < 4; client++) {
+                int before = asked.told(client, 3);
+                int conflicts = asked.conflictsIn(client, ticks);
+                IronbridgeCache mended = busy();
+                mended.cut(client, false);
+                mended.tick(ticks);
+                same("25 client " + client + " in " + ticks, conflicts, mended.told(client, 3) - before);
+            }
+            boolean isCalm = asked.calmIn(ticks) >= 0;
+            same("23 in " + ticks, isCalm, ticks >= asked.calmIn(100));
+        }
+    }
+
+    /** Requests in rows, things on their way, dirty files of all habits, and one line that is cut. */
+    private static IronbridgeCache busy() {
+        IronbridgeCache net = new IronbridgeCache();
+        net.addClient(1, 1);
+        net.addClient(3, 0);
+        net.addClient(2, 2);
+        net.addClient(4, 1);
+        net.setTerm(12, 2);
+        net.setRoom(3);
+        for (int client = 0; client < 4; client++) {
+            for (int file = 0; file < 4; file++) {
+                net.read(client, file);
+            }
+        }
+        net.tick(9);
+        for (int client = 0; client < 4; client++) {
+            for (int file = 1; file < 4; file++) {
+                net.write(client, file, 10 * client + file);
+            }
+        }
+        net.cut(2, true);
+        net.tick(4);
+        net.write(0, 1, 500);
+        net.write(2, 2, 600);
+        net.read(3, 7);
+        return net;
     }
 }
