@@ -110,6 +110,17 @@ final class ClientTest extends Check {
         usedRow("18 a miss is no use", net, 2, 7, 4);
         net.tick(2);
         usedRow("18 given again", net, 4, 2, 7);
+        usedOneGone();
+    }
+
+    private static void usedOneGone() {
+        IronbridgeCache net = netOf(0, 0);
+        readAll(net, 4, 2, 7);
+        net.write(1, 2, 1);
+        net.flush(1);
+        net.tick(2);
+        usedRow("18 called, the middle one went", net, 7, 4);
+        failsIndex("18 place 2", net, () -> net.used(0, 2));
     }
 
     private static void usedRow(String what, IronbridgeCache net, int... due) {

@@ -46,6 +46,9 @@ final class WouldTest extends Check {
         same("23 dirty, sent, stored", net.calmIn(100), 7);
         same("23 just so many", net.calmIn(7), 7);
         same("23 one less", net.calmIn(6), -1);
+        net.setTerm(20, 0);
+        same("23 by the LAG that is set", net.calmIn(100), 3);
+        net.setTerm(20, 5);
         net.tick(7);
         same("23 as it said", net.calmIn(1), 0);
     }
