@@ -1,3 +1,7 @@
+import java.math.BigInteger;
+import java.util.ArrayList;
+import java.util.List;
+
 /** What the tests share: counting of what is due, and nets that stand in a known state. */
 class Check {
     interface Call {
@@ -22,6 +26,15 @@ class Check {
 
     static void sameDouble(String what, double got, double due) {
         if (got == due) {
+            passed++;
+            return;
+        }
+        failed++;
+        System.out.println(what + " answered " + got + ", due is " + due);
+    }
+
+    static void sameText(String what, String got, String due) {
+        if (got.equals(due)) {
             passed++;
             return;
         }
@@ -86,36 +99,78 @@ class Check {
         net.tick(2);
     }
 
+    /** Requests in rows, things on their way, dirty files of all habits, and one line that is cut. */
+    static IronbridgeCache busyNet() {
+        IronbridgeCache net = new IronbridgeCache();
+        net.addClient(1, 1);
+        net.addClient(3, 0);
+        net.addClient(2, 2);
+        net.addClient(4, 1);
+        net.setTerm(12, 2);
+        net.setRoom(3);
+        for (int client = 0; client < 4; client++) {
+            for (int file = 0; file < 4; file++) {
+                net.read(client, file);
+            }
+        }
+        net.tick(9);
+        for (int client = 0; client < 4; client++) {
+            for (int file = 1; file < 4; file++) {
+                net.write(client, file, 10 * client + file);
+            }
+        }
+        net.cut(2, true);
+        net.tick(4);
+        net.write(0, 1, 500);
+        net.write(2, 2, 600);
+        net.read(3, 7);
+        return net;
+    }
+
     /** The digest as the document tells it, of what the other calls answer. */
     static long digestOf(IronbridgeCache net) {
-        long d = 58077;
-        long[] start = {net.clock(), net.clients(), net.onTheWay(), net.stale()};
-        for (long v : start) {
-            d = d * 31 + v;
-        }
+        List<Integer> numbers = new ArrayList<>();
+        int clients = net.clients();
+        int things = net.onTheWay();
+        numbers.addAll(List.of(net.clock(), clients, things, net.stale()));
         for (int file = 0; file < 12; file++) {
             for (int what = 0; what < 4; what++) {
-                d = d * 31 + net.server(file, what);
+                numbers.add(net.server(file, what));
             }
         }
-        for (int client = 0; client < net.clients(); client++) {
-            for (int what = 0; what < 7; what++) {
-                d = d * 31 + net.told(client, what);
-            }
-            for (int place = 0; place < net.told(client, 0); place++) {
-                d = d * 31 + net.used(client, place);
-            }
-            for (int file = 0; file < 12; file++) {
-                for (int what = 0; what < 6; what++) {
-                    d = d * 31 + net.has(client, file, what);
-                }
-            }
+        for (int client = 0; client < clients; client++) {
+            addClientNumbers(net, client, numbers);
         }
-        for (int place = 0; place < net.onTheWay(); place++) {
+        for (int place = 0; place < things; place++) {
             for (int what = 0; what < 4; what++) {
-                d = d * 31 + net.way(place, what);
+                numbers.add(net.way(place, what));
             }
         }
-        return d;
+        return wrapped(numbers);
+    }
+
+    private static void addClientNumbers(IronbridgeCache net, int client, List<Integer> numbers) {
+        int files = net.told(client, 0);
+        numbers.add(files);
+        for (int what = 1; what < 7; what++) {
+            numbers.add(net.told(client, what));
+        }
+        for (int place = 0; place < files; place++) {
+            numbers.add(net.used(client, place));
+        }
+        for (int file = 0; file < 12; file++) {
+            for (int what = 0; what < 6; what++) {
+                numbers.add(net.has(client, file, what));
+            }
+        }
+    }
+
+    /** Reckoned without any bound, and cut to 64 bits only in the end. */
+    static long wrapped(List<Integer> numbers) {
+        BigInteger d = BigInteger.valueOf(58077);
+        for (int v : numbers) {
+            d = d.multiply(BigInteger.valueOf(31)).add(BigInteger.valueOf(v));
+        }
+        return d.longValue();
     }
 }

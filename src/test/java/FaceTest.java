@@ -17,33 +17,52 @@ final class FaceTest extends Check {
         "long digest()"};
 
     public static void main(String[] args) {
+        methods();
+        membersAndClasses();
+        close("FaceTest");
+    }
+
+    private static void methods() {
         List<String> due = List.of(FACE);
         List<String> names = new ArrayList<>();
+        for (String signature : FACE) {
+            names.add(signature.substring(signature.indexOf(' ') + 1, signature.indexOf('(')));
+        }
         int found = 0;
         for (Method method : IronbridgeCache.class.getDeclaredMethods()) {
+            if (method.isSynthetic()) {
+                continue;
+            }
             if (Modifier.isPrivate(method.getModifiers())) {
+                same("no name of the face: " + method, names.contains(method.getName()), false);
                 continue;
             }
             found++;
-            names.add(method.getName());
             same("public: " + method, Modifier.isPublic(method.getModifiers()), true);
             same("of the face: " + method, due.contains(signatureOf(method)), true);
+            same("of the object: " + method, Modifier.isStatic(method.getModifiers()), false);
         }
         same("all of the face", found, FACE.length);
+    }
+
+    private static void membersAndClasses() {
+        same("public", Modifier.isPublic(IronbridgeCache.class.getModifiers()), true);
         same("final", Modifier.isFinal(IronbridgeCache.class.getModifiers()), true);
+        same("without a package", IronbridgeCache.class.getPackageName().isEmpty(), true);
+        same("of no other class", IronbridgeCache.class.getSuperclass() == Object.class, true);
         Constructor<?>[] constructors = IronbridgeCache.class.getDeclaredConstructors();
         same("one constructor", constructors.length, 1);
         same("public constructor", Modifier.isPublic(constructors[0].getModifiers()), true);
+        same("constructor without arguments", constructors[0].getParameterCount(), 0);
         for (Field field : IronbridgeCache.class.getDeclaredFields()) {
-            same("private: " + field, Modifier.isPrivate(field.getModifiers()), true);
+            same("private: " + field, field.isSynthetic() || Modifier.isPrivate(field.getModifiers()), true);
         }
         for (Class<?> inner : IronbridgeCache.class.getDeclaredClasses()) {
+            same("not to be seen: " + inner, Modifier.isPublic(inner.getModifiers()), false);
             for (Method method : inner.getDeclaredMethods()) {
-                same("no name of the face: " + method, names.contains(method.getName()), false);
                 same("at most seven parameters: " + method, method.getParameterCount() <= 7, true);
             }
         }
-        close("FaceTest");
     }
 
     private static String signatureOf(Method method) {

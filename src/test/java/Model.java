@@ -418,4 +418,28 @@ final class Model {
         }
         return trial.told(client, CONFLICTS) - told(client, CONFLICTS);
     }
+
+    long digest() {
+        List<Integer> numbers = new ArrayList<>(List.of(clock, clients.size(), way.size(), stale()));
+        for (int file = 0; file < 12; file++) {
+            for (int what = 0; what < 4; what++) {
+                numbers.add(server(file, what));
+            }
+        }
+        for (int client = 0; client < clients.size(); client++) {
+            for (int what = 0; what < 7; what++) {
+                numbers.add(told(client, what));
+            }
+            numbers.addAll(clients.get(client).used);
+            for (int file = 0; file < 12; file++) {
+                for (int what = 0; what < 6; what++) {
+                    numbers.add(has(client, file, what));
+                }
+            }
+        }
+        for (Thing thing : way) {
+            numbers.addAll(List.of(thing.client(), thing.kind().ordinal(), thing.file(), thing.comes()));
+        }
+        return Check.wrapped(numbers);
+    }
 }

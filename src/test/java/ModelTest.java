@@ -1,9 +1,13 @@
+import java.util.LinkedList;
 import java.util.Random;
 
 /** Runs of calls by chance (always the same ones), each answer held against the plain model's. */
 final class ModelTest extends Check {
-    private static final int RUNS = 400;
-    private static final int CALLS = 500;
+    private static final int RUNS = 1500;
+    // What an object answers after so many calls is free.
+    private static final int MOST_CALLS = 512;
+    // A step asks for no more than this: a change, the digest, and one question of up to four calls.
+    private static final int CALLS_OF_A_STEP = 6;
 
     public static void main(String[] args) {
         for (int run = 0; run < RUNS; run++) {
@@ -19,36 +23,43 @@ final class ModelTest extends Check {
     // Few files bring many conflicts; many bring many that go for want of room.
     private final int files;
     private final int mostTicks;
+    private final int mostDelay;
+    private final int clients;
+    private int calls;
 
     private ModelTest(int run) {
         this.run = run;
         random = new Random(run);
         files = 1 + random.nextInt(12);
         mostTicks = 1 + random.nextInt(run % 5 == 0 ? 60 : 6);
+        mostDelay = 1 + random.nextInt(8);
+        clients = 1 + random.nextInt(4);
     }
 
     private void play() {
-        for (int call = 0; call < CALLS; call++) {
-            if (model.clients.isEmpty() || (model.clients.size() < 4 && random.nextInt(20) == 0)) {
+        join();
+        while (calls <= MOST_CALLS - CALLS_OF_A_STEP) {
+            if (model.clients.size() < clients && random.nextInt(4) == 0) {
                 join();
+            } else {
+                change();
             }
-            change(call);
-            if (call % 25 == 24) {
-                ask(call);
-            }
+            due("digest", net.digest(), model.digest());
+            ask();
         }
-        ask(CALLS);
     }
+
+    // ---- what changes something
 
     private void join() {
         Model.Client client = new Model.Client();
-        client.delay = 1 + random.nextInt(8);
+        client.delay = 1 + random.nextInt(mostDelay);
         client.habit = random.nextInt(3);
         model.clients.add(client);
         due("addClient", net.addClient(client.delay, client.habit), model.clients.size() - 1);
     }
 
-    private void change(int call) {
+    private void change() {
         int client = random.nextInt(model.clients.size());
         int file = random.nextInt(files);
         switch (random.nextInt(12)) {
@@ -74,7 +85,6 @@ final class ModelTest extends Check {
                 tick();
                 break;
         }
-        due("stale at " + call, net.stale(), model.stale());
     }
 
     private void tick() {
@@ -98,79 +108,70 @@ final class ModelTest extends Check {
         due("setTerm", net.setTerm(model.term, model.lag), before);
     }
 
-    private void ask(int call) {
-        due("clock", net.clock(), model.clock);
-        due("clients", net.clients(), model.clients.size());
-        due("onTheWay", net.onTheWay(), model.way.size());
-        for (int file = 0; file < 12; file++) {
-            askServer(file);
-        }
-        for (int client = 0; client < model.clients.size(); client++) {
-            askClient(client);
-        }
-        for (int place = 0; place < model.way.size(); place++) {
-            Model.Thing thing = model.way.get(place);
-            due("way client", net.way(place, 0), thing.client());
-            due("way kind", net.way(place, 1), thing.kind().ordinal());
-            due("way file", net.way(place, 2), thing.file());
-            due("way comes", net.way(place, 3), thing.comes());
-        }
-        askWhatWouldBe(1 + random.nextInt(100));
-    }
+    // ---- what the digest does not tell
 
-    private void askServer(int file) {
-        for (int what = 0; what < 4; what++) {
-            due("server", net.server(file, what), model.server(file, what));
-        }
-        for (int client = 0; client < model.clients.size(); client++) {
-            due("lease", net.lease(file, client), model.leased(file, client) ? model.leases[file][client] : -1);
-        }
-        int place = 0;
-        for (Model.Thing request : model.rows.get(file)) {
-            due("request client", net.request(file, place, 0), request.client());
-            due("request kind", net.request(file, place, 1), request.kind().ordinal());
-            due("request content", net.request(file, place, 2), request.content());
-            due("request base", net.request(file, place, 3), request.version());
-            place++;
+    private void ask() {
+        int client = random.nextInt(model.clients.size());
+        int file = random.nextInt(files);
+        int ticks = 1 + random.nextInt(random.nextBoolean() ? 100 : 12);
+        switch (random.nextInt(7)) {
+            case 0:
+                due("lease", net.lease(file, client), model.leased(file, client) ? model.leases[file][client] : -1);
+                break;
+            case 1:
+                askRequest(file);
+                break;
+            case 2:
+                askAside(client);
+                break;
+            case 3:
+                askLuck(client);
+                break;
+            case 4:
+                due("calmIn", net.calmIn(ticks), model.calmIn(ticks));
+                break;
+            case 5:
+                due("contentIn", net.contentIn(file, ticks), model.contentIn(file, ticks));
+                break;
+            default:
+                due("conflictsIn", net.conflictsIn(client, ticks), model.conflictsIn(client, ticks));
+                break;
         }
     }
 
-    private void askClient(int client) {
+    private void askRequest(int file) {
+        LinkedList<Model.Thing> row = model.rows.get(file);
+        if (row.isEmpty()) {
+            return;
+        }
+        int place = random.nextInt(row.size());
+        Model.Thing request = row.get(place);
+        due("request client", net.request(file, place, 0), request.client());
+        due("request kind", net.request(file, place, 1), request.kind().ordinal());
+        due("request content", net.request(file, place, 2), request.content());
+        due("request base", net.request(file, place, 3), request.version());
+    }
+
+    private void askAside(int client) {
         Model.Client asked = model.clients.get(client);
-        for (int file = 0; file < 12; file++) {
-            for (int what = 0; what < 6; what++) {
-                due("has " + what, net.has(client, file, what), model.has(client, file, what));
-            }
+        if (asked.aside.isEmpty()) {
+            return;
         }
-        for (int what = 0; what < 7; what++) {
-            due("told " + what, net.told(client, what), model.told(client, what));
-        }
-        for (int place = 0; place < asked.used.size(); place++) {
-            due("used", net.used(client, place), asked.used.get(place));
-        }
-        for (int back = 0; back < asked.aside.size(); back++) {
-            due("aside file", net.aside(client, back, false), asked.aside.get(back)[0]);
-            due("aside content", net.aside(client, back, true), asked.aside.get(back)[1]);
-        }
-        failsIndex("aside of too many", net, () -> net.aside(client, asked.aside.size(), true));
-        int all = asked.counts[Model.HITS] + asked.counts[Model.MISSES];
-        sameDouble("luck", net.luck(client), all == 0 ? 0 : asked.counts[Model.HITS] / (double) all);
+        int back = random.nextInt(asked.aside.size());
+        due("aside file", net.aside(client, back, false), asked.aside.get(back)[0]);
+        due("aside content", net.aside(client, back, true), asked.aside.get(back)[1]);
     }
 
-    private void askWhatWouldBe(int ticks) {
-        long before = net.digest();
-        due("calmIn", net.calmIn(ticks), model.calmIn(ticks));
-        for (int file = 0; file < 12; file++) {
-            due("contentIn", net.contentIn(file, ticks), model.contentIn(file, ticks));
-        }
-        for (int client = 0; client < model.clients.size(); client++) {
-            due("conflictsIn", net.conflictsIn(client, ticks), model.conflictsIn(client, ticks));
-        }
-        due("digest", net.digest(), before);
-        due("digest of all", before, digestOf(net));
+    private void askLuck(int client) {
+        int[] counts = model.clients.get(client).counts;
+        int all = counts[Model.HITS] + counts[Model.MISSES];
+        calls++;
+        sameDouble("luck", net.luck(client), all == 0 ? 0 : counts[Model.HITS] / (double) all);
     }
 
+    /** Each answer is that of one call. */
     private void due(String what, long got, long due) {
+        calls++;
         same("run " + run + ": " + what, got, due);
     }
 }

@@ -120,22 +120,31 @@ final class WouldTest extends Check {
     }
 
     private static void digest() {
+        same("26 new", new IronbridgeCache().digest(), digestOf(new IronbridgeCache()));
+        for (int steps = 0; steps <= 30; steps++) {
+            IronbridgeCache net = steppedNet(steps);
+            same("26 step " + steps, net.digest(), digestOf(net));
+        }
+        digestOfStale();
+        digestOfStaleFirst();
+    }
+
+    private static IronbridgeCache steppedNet(int steps) {
         IronbridgeCache net = new IronbridgeCache();
-        same("26 new", net.digest(), digestOf(net));
         net.addClient(2, 1);
         net.addClient(1, 2);
         net.addClient(5, 0);
-        for (int i = 0; i < 40; i++) {
+        for (int i = 0; i < steps; i++) {
             net.read(i % 3, i * 7 % 12);
             net.write(i % 3, i * 5 % 12, i);
             net.cut(i % 2, i % 7 == 3);
             net.tick(1 + i % 3);
-            same("26 step " + i, net.digest(), digestOf(net));
         }
-        digestOfStale();
+        return net;
     }
 
-    private static void digestOfStale() {
+    /** Client 1 is cut, and trusts what it has of a file that client 0 stored. */
+    private static IronbridgeCache staleNet() {
         IronbridgeCache net = netOf(0, 0);
         net.addClient(8, 0);
         readAll(net, 0);
@@ -144,9 +153,18 @@ final class WouldTest extends Check {
         net.flush(0);
         net.tick(20);
         net.read(2, 5);
+        return net;
+    }
+
+    private static void digestOfStale() {
+        IronbridgeCache net = staleNet();
         same("26 with a stale one", net.stale(), 1);
         same("26 and with what comes 8 later", net.way(net.onTheWay() - 1, 3), 30);
         same("26 counts both", net.digest(), digestOf(net));
+    }
+
+    private static void digestOfStaleFirst() {
+        IronbridgeCache net = staleNet();
         net.tick(8);
         net.read(2, 6);
         same("26 as the one comes", net.digest(), digestOf(net));
@@ -172,8 +190,8 @@ final class WouldTest extends Check {
     /** What would be is what comes: asked of one net, seen at another one of the same calls. */
     private static void asItComes() {
         for (int ticks = 1; ticks <= 60; ticks++) {
-            IronbridgeCache asked = busy();
-            IronbridgeCache seen = busy();
+            IronbridgeCache asked = busyNet();
+            IronbridgeCache seen = busyNet();
             seen.tick(ticks);
             for (int file = 0; file < 12; file++) {
                 same("24 file " + file + " in " + ticks, asked.contentIn(file, ticks), seen.server(file, 0));
@@ -181,7 +199,7 @@ final class WouldTest extends Check {
             for (int client = 0; client < 4; client++) {
                 int before = asked.told(client, 3);
                 int conflicts = asked.conflictsIn(client, ticks);
-                IronbridgeCache mended = busy();
+                IronbridgeCache mended = busyNet();
                 mended.cut(client, false);
                 mended.tick(ticks);
                 same("25 client " + client + " in " + ticks, conflicts, mended.told(client, 3) - before);
@@ -189,33 +207,5 @@ final class WouldTest extends Check {
             boolean isCalm = asked.calmIn(ticks) >= 0;
             same("23 in " + ticks, isCalm, ticks >= asked.calmIn(100));
         }
-    }
-
-    /** Requests in rows, things on their way, dirty files of all habits, and one line that is cut. */
-    private static IronbridgeCache busy() {
-        IronbridgeCache net = new IronbridgeCache();
-        net.addClient(1, 1);
-        net.addClient(3, 0);
-        net.addClient(2, 2);
-        net.addClient(4, 1);
-        net.setTerm(12, 2);
-        net.setRoom(3);
-        for (int client = 0; client < 4; client++) {
-            for (int file = 0; file < 4; file++) {
-                net.read(client, file);
-            }
-        }
-        net.tick(9);
-        for (int client = 0; client < 4; client++) {
-            for (int file = 1; file < 4; file++) {
-                net.write(client, file, 10 * client + file);
-            }
-        }
-        net.cut(2, true);
-        net.tick(4);
-        net.write(0, 1, 500);
-        net.write(2, 2, 600);
-        net.read(3, 7);
-        return net;
     }
 }
