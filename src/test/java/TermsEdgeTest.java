@@ -29,6 +29,7 @@ final class TermsEdgeTest extends Check {
         givenToDirty();
         asksOnce();
         wentWhileSent();
+        wentWhileSentAgain();
         cleanClash();
         dirtySince();
         dirtyLongerThanLag();
@@ -630,6 +631,29 @@ final class TermsEdgeTest extends Check {
             same("2 nothing comes", net.told(0, 0), 2);
             failsIndex("2 nothing is kept aside", net, () -> net.aside(0, 0, true));
         }
+    }
+
+    /** OURS is sent again by a first CLASH; then the file goes, and a second CLASH comes. */
+    private static void wentWhileSentAgain() {
+        IronbridgeCache net = netOf(1);
+        net.setRoom(2);
+        readAll(net, 1);
+        net.write(0, 1, 3);
+        net.flush(0);
+        net.cut(0, true);
+        net.cut(0, false);
+        net.read(0, 4);
+        net.read(0, 5);
+        net.cut(0, true);
+        net.cut(0, false);
+        net.tick(2);
+        same("2 it went", net.has(0, 1, 0), -1);
+        same("2 two conflicts", net.told(0, 3), 2);
+        same("2 sent again by the first alone", net.onTheWay(), 1);
+        same("2 by the second it sends it no more", net.has(0, 1, 5), 0);
+        net.tick(2);
+        same("2 STORED changes nothing of it", net.has(0, 1, 0), -1);
+        same("2 though it was stored", net.server(1, 1), 2);
     }
 
     private static void cleanClash() {
