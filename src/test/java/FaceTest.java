@@ -4,16 +4,20 @@ import java.lang.reflect.Method;
 import java.lang.reflect.Modifier;
 import java.util.ArrayList;
 import java.util.List;
+import java.util.Map;
 
 /** The public face is just that of the document, and no private method bears a name of it. */
 final class FaceTest extends Check {
+    private static final Map<String, String> LETTERS = Map.of("IllegalArgumentException", "A",
+        "IllegalStateException", "S", "IndexOutOfBoundsException", "I");
+    // What a method throws is told by first letters: A(rgument), S(tate), I(ndex).
     private static final String[] FACE = {
-        "int addClient(int,int)", "int setTerm(int,int)", "int setRoom(int)", "int cut(int,boolean)",
-        "int read(int,int)", "boolean write(int,int,int)", "int flush(int)", "int tick(int)",
-        "int clock()", "int clients()", "int server(int,int)", "int lease(int,int)",
-        "int request(int,int,int)", "int onTheWay()", "int way(int,int)", "int has(int,int,int)",
-        "int used(int,int)", "int told(int,int)", "int aside(int,int,boolean)", "double luck(int)",
-        "int stale()", "int calmIn(int)", "int contentIn(int,int)", "int conflictsIn(int,int)",
+        "int addClient(int,int) A S", "int setTerm(int,int) A", "int setRoom(int) A", "int cut(int,boolean) I",
+        "int read(int,int) I", "boolean write(int,int,int) I A", "int flush(int) I", "int tick(int) A",
+        "int clock()", "int clients()", "int server(int,int) I A", "int lease(int,int) I",
+        "int request(int,int,int) I A", "int onTheWay()", "int way(int,int) I A", "int has(int,int,int) I A",
+        "int used(int,int) I", "int told(int,int) I A", "int aside(int,int,boolean) I", "double luck(int) I",
+        "int stale()", "int calmIn(int) A", "int contentIn(int,int) I A", "int conflictsIn(int,int) I A",
         "long digest()"};
 
     public static void main(String[] args) {
@@ -72,6 +76,10 @@ final class FaceTest extends Check {
         for (int i = 0; i < types.length; i++) {
             text.append(i == 0 ? "" : ",").append(types[i].getSimpleName());
         }
-        return text.append(')').toString();
+        text.append(')');
+        for (Class<?> thrown : method.getExceptionTypes()) {
+            text.append(' ').append(LETTERS.getOrDefault(thrown.getSimpleName(), "?"));
+        }
+        return text.toString();
     }
 }

@@ -4,7 +4,7 @@ import java.nio.file.Path;
 import java.util.List;
 import java.util.regex.Pattern;
 
-/** What can be seen of ../shared/LANGUAGE.md in the program's text; its path is the argument. */
+/** What can be seen of ../shared/LANGUAGE.md in the program's text; its path is the first argument. */
 final class LanguageTest extends Check {
     private static final String[] NEVER = {
         "finally", "synchronized", "assert", "volatile", "native", "Exception", "Throwable",
@@ -15,7 +15,7 @@ final class LanguageTest extends Check {
         Pattern.compile("import java\\.util\\.(ArrayList|List|Arrays|Iterator|NoSuchElementException);");
 
     public static void main(String[] args) throws IOException {
-        if (args.length != 1) {
+        if (args.length < 1) {
             System.out.println("the program's path is missing");
             System.exit(1);
         }

@@ -42,6 +42,7 @@ final class TermsEdgeTest extends Check {
         aheadAsItIsSet();
         aheadOfARow();
         aheadAsFilesGo();
+        aheadOfCleanFile();
         close("TermsEdgeTest");
     }
 
@@ -883,5 +884,27 @@ final class TermsEdgeTest extends Check {
         same("23 what went is not sent again", net.calmIn(100), 2);
         net.setRoom(3);
         same("23 with more room it stays, and is", net.calmIn(100), 4);
+    }
+
+    /** STORED came, CLASH of the second store with the same BASE is on its way: the file is clean. */
+    private static void aheadOfCleanFile() {
+        int[] calm = {1, 3, 1};
+        for (int habit = 0; habit <= 2; habit++) {
+            IronbridgeCache net = netOf(habit);
+            readAll(net, 0);
+            net.write(0, 0, 3);
+            net.flush(0);
+            net.tick(1);
+            net.cut(0, true);
+            net.cut(0, false);
+            net.tick(1);
+            same("2 clean, habit " + habit, net.has(0, 0, 2), 0);
+            same("2 CLASH is on its way", net.way(0, 1), 5);
+            same("25 a conflict", net.conflictsIn(0, 1), 1);
+            same("25 and no more", net.conflictsIn(0, 100), 1);
+            same("23 only OURS is sent again", net.calmIn(100), calm[habit]);
+            net.tick(1);
+            same("2 as it was said", net.onTheWay(), habit == 1 ? 1 : 0);
+        }
     }
 }
