@@ -99,6 +99,18 @@ class Check {
         net.tick(2);
     }
 
+    /** Client 0 stores first, what client 1 has written of the same file is in conflict. */
+    static void conflict(IronbridgeCache net, int file, int content) {
+        net.read(0, file);
+        net.read(1, file);
+        net.tick(2);
+        net.write(0, file, content + 1);
+        net.write(1, file, content);
+        net.flush(0);
+        net.flush(1);
+        net.tick(6);
+    }
+
     /** Requests in rows, things on their way, dirty files of all habits, and one line that is cut. */
     static IronbridgeCache busyNet() {
         IronbridgeCache net = new IronbridgeCache();

@@ -178,18 +178,6 @@ final class ClientTest extends Check {
         failsIndex("20 not of theirs", net, () -> net.aside(0, 0, true));
     }
 
-    /** Client 0 stores first, what client 1 has written of the same file is in conflict. */
-    private static void conflict(IronbridgeCache net, int file, int content) {
-        net.read(0, file);
-        net.read(1, file);
-        net.tick(2);
-        net.write(0, file, content + 1);
-        net.write(1, file, content);
-        net.flush(0);
-        net.flush(1);
-        net.tick(6);
-    }
-
     private static void asideOfMany() {
         IronbridgeCache net = netOf(0, 2);
         for (int i = 0; i < 12; i++) {
