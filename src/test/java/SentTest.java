@@ -5,6 +5,8 @@ final class SentTest extends Check {
         baseAsItIsSent();
         giveAsItIsSent();
         clashAsItIsSent();
+        clashOfLaterVersion();
+        calledDirty();
         oursAsItComes();
         bothAsItComes();
         oursStaysDirtySince();
@@ -100,6 +102,46 @@ final class SentTest extends Check {
         same("2 the content of the first one", net.has(0, 0, 0), 5);
         same("2 the version of the first one", net.has(0, 0, 1), 1);
         same("2 a conflict", net.told(0, 3), 1);
+    }
+
+    /** Client 0 stores twice before client 1 sends what it wrote of version 0. */
+    private static void clashOfLaterVersion() {
+        for (int habit = 0; habit <= 2; habit++) {
+            IronbridgeCache net = netOf(0, habit);
+            net.setTerm(20, 20);
+            readAll(net, 9);
+            net.write(1, 9, 7);
+            for (int content = 5; content <= 6; content++) {
+                net.write(0, 9, content);
+                net.flush(0);
+                net.tick(4);
+            }
+            same("1 stored twice", net.server(9, 1), 2);
+            net.flush(1);
+            net.tick(4);
+            same("2 a conflict", net.told(1, 3), 1);
+            same("2 the version of the server, habit " + habit, net.has(1, 9, 1), 2);
+            same("2 the content, habit " + habit, net.has(1, 9, 0), habit == 1 ? 7 : 6);
+            net.tick(4);
+            same("2 OURS with this BASE is stored", net.server(9, 1), habit == 1 ? 3 : 2);
+        }
+    }
+
+    private static void calledDirty() {
+        for (int habit = 0; habit <= 2; habit++) {
+            IronbridgeCache net = netOf(0, habit);
+            readAll(net, 0, 1, 2, 7);
+            net.write(1, 7, 8);
+            net.write(0, 7, 5);
+            net.flush(0);
+            net.tick(2);
+            same("2 called", net.told(1, 4), 1);
+            same("2 its lease is over", net.has(1, 7, 3), -1);
+            same("2 its content stays", net.has(1, 7, 0), 8);
+            for (int file = 0; file <= 2; file++) {
+                same("2 the lease of file " + file + " is not", net.has(1, file, 3), 21);
+            }
+        }
     }
 
     /** Client 0 has stored 5; client 1 wrote and sent 7, then wrote 8, and CLASH has come to it. */

@@ -39,10 +39,8 @@ final class TermsEdgeTest extends Check {
         mendedTwice();
         missIsNoUse();
         filesThenClients();
-        aheadAsItIsSet();
         aheadOfARow();
         aheadAsFilesGo();
-        aheadOfCleanFile();
         close("TermsEdgeTest");
     }
 
@@ -836,29 +834,6 @@ final class TermsEdgeTest extends Check {
 
     // ---- what would be, from what is
 
-    /** The lease that client 0 is given by its store lasts TERM: so long client 1 waits for CLASH. */
-    private static void aheadAsItIsSet() {
-        IronbridgeCache net = new IronbridgeCache();
-        net.addClient(8, 0);
-        net.addClient(1, 0);
-        net.setTerm(60, 20);
-        net.read(0, 0);
-        net.tick(14);
-        net.read(1, 0);
-        net.tick(2);
-        net.write(0, 0, 1);
-        net.write(1, 0, 2);
-        net.flush(0);
-        net.tick(7);
-        net.flush(1);
-        net.setTerm(3, 20);
-        same("25 with the TERM that is set: 30", net.conflictsIn(1, 7), 1);
-        same("25 not at 29", net.conflictsIn(1, 6), 0);
-        net.setTerm(15, 20);
-        same("25 with a longer one: 42", net.conflictsIn(1, 19), 1);
-        same("25 not at 41", net.conflictsIn(1, 18), 0);
-    }
-
     private static void aheadOfARow() {
         IronbridgeCache called = waitingNet();
         called.tick(1);
@@ -884,27 +859,5 @@ final class TermsEdgeTest extends Check {
         same("23 what went is not sent again", net.calmIn(100), 2);
         net.setRoom(3);
         same("23 with more room it stays, and is", net.calmIn(100), 4);
-    }
-
-    /** STORED came, CLASH of the second store with the same BASE is on its way: the file is clean. */
-    private static void aheadOfCleanFile() {
-        int[] calm = {1, 3, 1};
-        for (int habit = 0; habit <= 2; habit++) {
-            IronbridgeCache net = netOf(habit);
-            readAll(net, 0);
-            net.write(0, 0, 3);
-            net.flush(0);
-            net.tick(1);
-            net.cut(0, true);
-            net.cut(0, false);
-            net.tick(1);
-            same("2 clean, habit " + habit, net.has(0, 0, 2), 0);
-            same("2 CLASH is on its way", net.way(0, 1), 5);
-            same("25 a conflict", net.conflictsIn(0, 1), 1);
-            same("25 and no more", net.conflictsIn(0, 100), 1);
-            same("23 only OURS is sent again", net.calmIn(100), calm[habit]);
-            net.tick(1);
-            same("2 as it was said", net.onTheWay(), habit == 1 ? 1 : 0);
-        }
     }
 }

@@ -3,6 +3,7 @@ final class UsingTest extends Check {
     public static void main(String[] args) {
         read();
         readWhileCut();
+        eachItsOwn();
         write();
         flush();
         tick();
@@ -46,6 +47,19 @@ final class UsingTest extends Check {
         same("6 no fetch while cut", net.onTheWay(), 0);
         same("6 it does not ask", net.has(0, 1, 5), 0);
         same("6 it counts", net.told(0, 2), 2);
+    }
+
+    /** Three clients write different contents of one file, and each one reads its own. */
+    private static void eachItsOwn() {
+        IronbridgeCache net = netOf(0, 0, 0, 0);
+        readAll(net, 4);
+        for (int client = 3; client >= 1; client--) {
+            same("7 written by " + client, net.write(client, 4, 10 * client), true);
+        }
+        for (int client = 0; client < 4; client++) {
+            same("6 what client " + client + " has", net.read(client, 4), 10 * client);
+            same("6 hits of client " + client, net.told(client, 1), client == 0 ? 1 : 2);
+        }
     }
 
     private static void write() {

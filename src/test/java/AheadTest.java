@@ -1,0 +1,106 @@
+/** What would be, asked of nets in which it hangs on a single thing: promises 23 to 25. */
+final class AheadTest extends Check {
+    public static void main(String[] args) {
+        aheadAsItIsSet();
+        aheadOfCleanFile();
+        eachFileDirty();
+        eachFileWaits();
+        usedLongestAgo();
+        close("AheadTest");
+    }
+
+    /** The lease that client 0 is given by its store lasts TERM: so long client 1 waits for CLASH. */
+    private static void aheadAsItIsSet() {
+        IronbridgeCache net = new IronbridgeCache();
+        net.addClient(8, 0);
+        net.addClient(1, 0);
+        net.setTerm(60, 20);
+        net.read(0, 0);
+        net.tick(14);
+        net.read(1, 0);
+        net.tick(2);
+        net.write(0, 0, 1);
+        net.write(1, 0, 2);
+        net.flush(0);
+        net.tick(7);
+        net.flush(1);
+        net.setTerm(3, 20);
+        same("25 with the TERM that is set: 30", net.conflictsIn(1, 7), 1);
+        same("25 not at 29", net.conflictsIn(1, 6), 0);
+        net.setTerm(15, 20);
+        same("25 with a longer one: 42", net.conflictsIn(1, 19), 1);
+        same("25 not at 41", net.conflictsIn(1, 18), 0);
+    }
+
+    /** STORED came, CLASH of the second store with the same BASE is on its way: the file is clean. */
+    private static void aheadOfCleanFile() {
+        int[] calm = {1, 3, 1};
+        for (int habit = 0; habit <= 2; habit++) {
+            IronbridgeCache net = netOf(habit);
+            readAll(net, 0);
+            net.write(0, 0, 3);
+            net.flush(0);
+            net.tick(1);
+            net.cut(0, true);
+            net.cut(0, false);
+            net.tick(1);
+            same("2 clean, habit " + habit, net.has(0, 0, 2), 0);
+            same("2 CLASH is on its way", net.way(0, 1), 5);
+            same("25 a conflict", net.conflictsIn(0, 1), 1);
+            same("25 and no more", net.conflictsIn(0, 100), 1);
+            same("23 only OURS is sent again", net.calmIn(100), calm[habit]);
+            net.tick(1);
+            same("2 as it was said", net.onTheWay(), habit == 1 ? 1 : 0);
+        }
+    }
+
+    /** Nothing is on its way, no row has a request: it hangs on the one file alone. */
+    private static void eachFileDirty() {
+        for (int file = 0; file < 12; file++) {
+            IronbridgeCache net = netOf(0, 0);
+            net.read(1, file);
+            net.tick(2);
+            net.write(1, file, 7);
+            same("23 file " + file + " is dirty: sent at 7, stored at 9", net.calmIn(100), 7);
+            same("24 file " + file + " is stored", net.contentIn(file, 6), 7);
+            net.cut(1, true);
+            same("23 file " + file + " is dirty behind a cut line", net.calmIn(100), 0);
+        }
+    }
+
+    /** Both lines are cut: it hangs on the row of the file alone, till the lease is over at 21. */
+    private static void eachFileWaits() {
+        for (int file = 0; file < 12; file++) {
+            IronbridgeCache net = netOf(0, 0);
+            readAll(net, file);
+            net.cut(1, true);
+            net.write(0, file, 7);
+            net.flush(0);
+            net.tick(2);
+            net.cut(0, true);
+            same("23 nothing is on its way", net.onTheWay(), 0);
+            same("23 file " + file + ": done at 21, and STORED is lost at 22", net.calmIn(100), 18);
+        }
+    }
+
+    /** As GIVE comes, file 1 goes or file 2, by which was used before: OURS is sent of what is had alone. */
+    private static void usedLongestAgo() {
+        for (int last = 1; last <= 2; last++) {
+            IronbridgeCache net = netOf(1);
+            net.setRoom(2);
+            readAll(net, 1, 2);
+            net.write(0, 1, 3);
+            net.flush(0);
+            net.read(0, last);
+            net.tick(1);
+            net.read(0, 4);
+            net.cut(0, true);
+            net.cut(0, false);
+            same("23 used last: file " + last, net.calmIn(100), last == 1 ? 4 : 2);
+            same("25 a conflict in any case", net.conflictsIn(0, 100), 1);
+            net.tick(2);
+            same("2 file 1", net.has(0, 1, 0), last == 1 ? 3 : -1);
+            same("2 file 2", net.has(0, 2, 0), last == 1 ? -1 : 0);
+        }
+    }
+}
