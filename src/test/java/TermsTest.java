@@ -3,6 +3,7 @@ final class TermsTest extends Check {
     public static void main(String[] args) {
         storeWaitsForAck();
         storeWaitsForLease();
+        storeOfContentZero();
         storeOfTheOnlyOne();
         callsAreSentOnce();
         fetchBehindStore();
@@ -78,6 +79,25 @@ final class TermsTest extends Check {
         net.tick(1);
         same("1 clock 21: done in the tick", net.server(3, 1), 1);
         same("1 one call, lost", net.told(1, 5), 1);
+    }
+
+    /** A STORE of CONTENT 0 is one all the same: it calls, waits and is in conflict as any other. */
+    private static void storeOfContentZero() {
+        IronbridgeCache net = netOf(0, 0);
+        readAll(net, 3);
+        net.write(0, 3, 0);
+        net.write(1, 3, 0);
+        net.flush(0);
+        net.flush(1);
+        net.tick(1);
+        same("1 a store", net.request(3, 0, 1), 1);
+        same("1 it waits", net.server(3, 2), 2);
+        same("1 it calls", net.way(0, 1), 6);
+        net.tick(2);
+        same("1 stored", net.server(3, 1), 1);
+        same("1 the next one calls, too", net.way(1, 1), 6);
+        net.tick(3);
+        same("2 and is in conflict", net.told(1, 3), 1);
     }
 
     private static void storeOfTheOnlyOne() {

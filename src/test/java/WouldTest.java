@@ -2,6 +2,8 @@
 final class WouldTest extends Check {
     public static void main(String[] args) {
         stale();
+        staleByLease();
+        notStaleWithoutLease();
         calmIn();
         calmInOfCutLines();
         contentIn();
@@ -31,6 +33,50 @@ final class WouldTest extends Check {
         same("22 nor does the sender, now that it is told", net.stale(), 1);
         net.cut(1, false);
         same("22 nor what can't be trusted", net.stale(), 0);
+    }
+
+    /** A late ACK takes away the lease of a FETCH, so client 0 stores without a CALL before GIVE comes. */
+    private static void staleByLease() {
+        IronbridgeCache net = new IronbridgeCache();
+        net.addClient(1, 0);
+        net.addClient(4, 0);
+        net.setTerm(10, 20);
+        net.read(1, 0);
+        net.tick(8);
+        net.read(0, 0);
+        net.tick(2);
+        net.write(0, 0, 1);
+        net.flush(0);
+        net.tick(4);
+        net.read(1, 0);
+        net.tick(5);
+        same("22 no lease at the server", net.lease(0, 1), -1);
+        net.write(0, 0, 2);
+        net.flush(0);
+        net.tick(2);
+        same("22 a second version", net.server(0, 1), 2);
+        same("22 not given yet", net.stale(), 0);
+        net.tick(1);
+        same("22 given the first one, with a lease until 28", net.has(1, 0, 3), 28);
+        same("22 trusted, though its line is mended", net.stale(), 1);
+        net.tick(5);
+        same("22 clock 27", net.stale(), 1);
+        net.tick(1);
+        same("22 clock 28: not trusted any more", net.stale(), 0);
+    }
+
+    private static void notStaleWithoutLease() {
+        IronbridgeCache net = netOf(0, 0);
+        net.setTerm(20, 20);
+        readAll(net, 0);
+        net.write(0, 0, 1);
+        net.tick(19);
+        same("22 clock 21: the leases are over", net.has(1, 0, 3), -1);
+        net.flush(0);
+        net.tick(2);
+        same("22 stored", net.server(0, 1), 1);
+        same("22 it has the version of before", net.has(1, 0, 1), 0);
+        same("22 but can't trust it", net.stale(), 0);
     }
 
     private static void calmIn() {
