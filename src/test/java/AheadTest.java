@@ -6,6 +6,7 @@ final class AheadTest extends Check {
         eachFileDirty();
         eachFileWaits();
         usedLongestAgo();
+        conflictsOfEach();
         close("AheadTest");
     }
 
@@ -91,7 +92,9 @@ final class AheadTest extends Check {
             readAll(net, 1, 2);
             net.write(0, 1, 3);
             net.flush(0);
-            net.read(0, last);
+            for (int hit = 0; hit < 5; hit++) {
+                net.read(0, last);
+            }
             net.tick(1);
             net.read(0, 4);
             net.cut(0, true);
@@ -101,6 +104,36 @@ final class AheadTest extends Check {
             net.tick(2);
             same("2 file 1", net.has(0, 1, 0), last == 1 ? 3 : -1);
             same("2 file 2", net.has(0, 2, 0), last == 1 ? -1 : 0);
+        }
+    }
+
+    /** Client k had k conflicts before; each but the first is to have one more. */
+    private static void conflictsOfEach() {
+        IronbridgeCache net = netOf(0, 0, 0, 0);
+        net.setTerm(20, 20);
+        for (int turn = 1; turn <= 3; turn++) {
+            conflictsFrom(net, turn);
+            net.tick(20);
+        }
+        for (int client = 0; client < 4; client++) {
+            same("25 conflicts before of client " + client, net.told(client, 3), client);
+            same("25 none to come of client " + client, net.conflictsIn(client, 100), 0);
+        }
+        conflictsFrom(net, 1);
+        for (int client = 0; client < 4; client++) {
+            same("25 one more of client " + client, net.conflictsIn(client, 100), client == 0 ? 0 : 1);
+            same("25 nothing is changed", net.told(client, 3), client);
+        }
+    }
+
+    /** Client 0 stores, and behind it the clients from that one on send what they wrote of the same version. */
+    private static void conflictsFrom(IronbridgeCache net, int first) {
+        readAll(net, 5);
+        net.write(0, 5, 1);
+        net.flush(0);
+        for (int client = first; client < 4; client++) {
+            net.write(client, 5, 2);
+            net.flush(client);
         }
     }
 }

@@ -111,6 +111,7 @@ final class ClientTest extends Check {
         net.tick(2);
         usedRow("18 given again", net, 4, 2, 7);
         usedOneGone();
+        usedEachGone();
     }
 
     private static void usedOneGone() {
@@ -121,6 +122,30 @@ final class ClientTest extends Check {
         net.tick(2);
         usedRow("18 called, the middle one went", net, 7, 4);
         failsIndex("18 place 2", net, () -> net.used(0, 2));
+    }
+
+    /** Of six files one goes, from each place: the others stay in their order, with their leases. */
+    private static void usedEachGone() {
+        int[] order = {9, 2, 0, 11, 4, 7};
+        for (int gone = 0; gone < 6; gone++) {
+            IronbridgeCache net = netOf(0, 0);
+            net.setRoom(6);
+            readAll(net, 7, 4, 11, 0, 2, 9);
+            net.write(1, order[gone], 1);
+            net.flush(1);
+            net.tick(2);
+            int place = 0;
+            for (int i = 0; i < 6; i++) {
+                boolean isThere = i != gone;
+                same("18 lease of file " + order[i], net.has(0, order[i], 3), isThere ? 21 : -1);
+                same("18 content of file " + order[i], net.has(0, order[i], 0), isThere ? 0 : -1);
+                if (isThere) {
+                    same("18 place " + place + " without " + order[gone], net.used(0, place), order[i]);
+                    place++;
+                }
+            }
+            same("18 five are left", net.told(0, 0), 5);
+        }
     }
 
     private static void usedRow(String what, IronbridgeCache net, int... due) {

@@ -6,6 +6,7 @@ final class SentTest extends Check {
         giveAsItIsSent();
         clashAsItIsSent();
         clashOfLaterVersion();
+        clashGivesNoLease();
         calledDirty();
         oursAsItComes();
         bothAsItComes();
@@ -124,6 +125,22 @@ final class SentTest extends Check {
             same("2 the content, habit " + habit, net.has(1, 9, 0), habit == 1 ? 7 : 6);
             net.tick(4);
             same("2 OURS with this BASE is stored", net.server(9, 1), habit == 1 ? 3 : 2);
+        }
+    }
+
+    private static void clashGivesNoLease() {
+        for (int habit = 0; habit <= 2; habit += 2) {
+            IronbridgeCache net = netOf(0, habit);
+            readAll(net, 11);
+            net.write(0, 11, 9999);
+            net.write(1, 11, 9998);
+            net.flush(0);
+            net.flush(1);
+            net.tick(6);
+            same("2 the content of the server", net.has(1, 11, 0), 9999);
+            same("2 no lease", net.has(1, 11, 3), -1);
+            same("2 no trust", net.has(1, 11, 4), 0);
+            same("2 none at the server", net.lease(11, 1), -1);
         }
     }
 

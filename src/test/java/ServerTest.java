@@ -112,6 +112,38 @@ final class ServerTest extends Check {
         net.tick(1);
         same("14 content", net.request(6, 0, 2), 11);
         same("14 base", net.request(6, 0, 3), 1);
+        basesOfARow();
+    }
+
+    /** Client 2 is cut with a lease, so both stores wait: of version 2 that of client 1, of 1 that of client 0. */
+    private static void basesOfARow() {
+        IronbridgeCache net = netOf(0, 0, 0);
+        net.setTerm(20, 20);
+        storeBy(net, 1, 10);
+        readAll(net, 6);
+        net.write(0, 6, 30);
+        storeBy(net, 1, 20);
+        net.read(2, 6);
+        net.tick(2);
+        net.cut(2, true);
+        net.write(1, 6, 40);
+        net.flush(1);
+        net.flush(0);
+        net.tick(1);
+        int[][] due = {{1, 1, 40, 2}, {0, 1, 30, 1}};
+        for (int place = 0; place < 2; place++) {
+            for (int what = 0; what < 4; what++) {
+                same("14 row, place " + place + " what " + what, net.request(6, place, what), due[place][what]);
+            }
+        }
+    }
+
+    private static void storeBy(IronbridgeCache net, int client, int content) {
+        net.read(client, 6);
+        net.tick(2);
+        net.write(client, 6, content);
+        net.flush(client);
+        net.tick(4);
     }
 
     private static void onTheWay() {
