@@ -4,6 +4,7 @@ final class AheadTest extends Check {
         aheadAsItIsSet();
         aheadOfCleanFile();
         eachFileDirty();
+        eachClientDirty();
         eachFileWaits();
         usedLongestAgo();
         conflictsOfEach();
@@ -66,6 +67,18 @@ final class AheadTest extends Check {
             same("24 file " + file + " is stored", net.contentIn(file, 6), 7);
             net.cut(1, true);
             same("23 file " + file + " is dirty behind a cut line", net.calmIn(100), 0);
+        }
+    }
+
+    private static void eachClientDirty() {
+        for (int client = 0; client < 4; client++) {
+            IronbridgeCache net = netOf(0, 0, 0, 0);
+            net.read(client, 3);
+            net.tick(2);
+            net.write(client, 3, 7);
+            same("23 client " + client + " has something dirty", net.calmIn(100), 7);
+            net.cut(client, true);
+            same("23 client " + client + " has it behind a cut line", net.calmIn(100), 0);
         }
     }
 

@@ -113,10 +113,11 @@ final class ServerTest extends Check {
         same("14 content", net.request(6, 0, 2), 11);
         same("14 base", net.request(6, 0, 3), 1);
         basesOfARow();
+        doneByItsOwnBase();
     }
 
-    /** Client 2 is cut with a lease, so both stores wait: of version 2 that of client 1, of 1 that of client 0. */
-    private static void basesOfARow() {
+    /** Client 2 is cut with a lease, so both stores wait: client 0 wrote of version 1, client 1 of 2. */
+    private static IronbridgeCache rowOfBases(int first, int second) {
         IronbridgeCache net = netOf(0, 0, 0);
         net.setTerm(20, 20);
         storeBy(net, 1, 10);
@@ -127,15 +128,34 @@ final class ServerTest extends Check {
         net.tick(2);
         net.cut(2, true);
         net.write(1, 6, 40);
-        net.flush(1);
-        net.flush(0);
+        net.flush(first);
+        net.flush(second);
         net.tick(1);
-        int[][] due = {{1, 1, 40, 2}, {0, 1, 30, 1}};
-        for (int place = 0; place < 2; place++) {
+        return net;
+    }
+
+    private static void basesOfARow() {
+        int[][] due = {{0, 1, 30, 1}, {1, 1, 40, 2}};
+        for (int first = 0; first <= 1; first++) {
+            IronbridgeCache net = rowOfBases(first, 1 - first);
             for (int what = 0; what < 4; what++) {
-                same("14 row, place " + place + " what " + what, net.request(6, place, what), due[place][what]);
+                same("14 first, what " + what, net.request(6, 0, what), due[first][what]);
+                same("14 second, what " + what, net.request(6, 1, what), due[1 - first][what]);
             }
         }
+    }
+
+    /** One behind the other, each is done by its own BASE and CONTENT, in one look. */
+    private static void doneByItsOwnBase() {
+        IronbridgeCache net = rowOfBases(0, 1);
+        int over = net.lease(6, 2);
+        same("1 one tick before both wait", net.tick(over - net.clock() - 1), 0);
+        same("1 both", net.server(6, 2), 2);
+        same("1 as the lease is over both are done", net.tick(1), 2);
+        same("1 CLASH for client 0", net.way(0, 1), 5);
+        same("1 STORED for client 1", net.way(1, 1), 4);
+        same("1 content", net.server(6, 0), 40);
+        same("1 version", net.server(6, 1), 3);
     }
 
     private static void storeBy(IronbridgeCache net, int client, int content) {
